@@ -816,10 +816,12 @@ public final class PromisesTest {
             due.is("19: another what", x.tally(bad), 0);
         }
         due.is("19: another what is not refused", x.tally(1), 1);
-        eachActIsTallied();
+        tallyOfEachActAsNone();
+        tallyOfEachActAsVacant();
+        tallyOfEachActAsBeyond();
     }
 
-    private static void eachActIsTallied() {
+    private static void tallyOfEachActAsNone() {
         x = new ReelBarn();
         x.mount(-1, 0, 0);
         x.eject(-1, 0);
@@ -837,15 +839,58 @@ public final class PromisesTest {
         x.paint(-1, 0, 0, 0);
         x.span(-1, 0);
         due.is("19: each act once as NONE", x.tally(1), 15);
-        x.note(0, 0, 0);
-        due.is("19: note as VACANT", x.tally(2), 1);
         x.chart(13, 0);
         x.hang(0, 0, 13);
         due.is("19: chart and hang as GREAT", x.tally(5), 2);
         x.chart(0, -1);
         x.hang(0, -1, 0);
         due.is("19: chart and hang as NEGATIVE", x.tally(4), 2);
-        due.is("19: nothing else", x.tally(3) + x.tally(6) + x.tally(7), 0);
+        due.is("19: nothing else", x.tally(2) + x.tally(3) + x.tally(6) + x.tally(7), 0);
+    }
+
+    private static void tallyOfEachActAsVacant() {
+        x = new ReelBarn();
+        x.eject(0, 0);
+        x.size(0, 0);
+        x.pin(0, 0, 0);
+        x.peel(0, 0, 0);
+        x.span(0, -1);
+        x.span(0, 0);
+        due.is("19: as VACANT", x.tally(2), 6);
+        reachForPlaces();
+        due.is("19: places as VACANT", x.tally(2), 14);
+        due.is("19: VACANT alone", x.tally(1) + x.tally(3) + x.tally(7), 0);
+    }
+
+    private static void tallyOfEachActAsBeyond() {
+        x = new ReelBarn();
+        x.mount(0, 0, 9);
+        x.hang(0, 9, 9);
+        x.chart(9, 9);
+        x.pin(0, 9, 0);
+        x.peel(0, 9, 0);
+        x.span(0, 9);
+        due.is("19: as BEYOND", x.tally(3), 3);
+        reachForPlaces();
+        due.is("19: places as BEYOND", x.tally(3), 11);
+        x.spot(0, 9, 0);
+        x.paint(0, 9, 0, 1);
+        x.note(9, 0, 1);
+        x.blend(0, 0, 9, 0, 0, 0, false);
+        due.is("19: rows and the other place as BEYOND", x.tally(3), 15);
+        due.is("19: BEYOND alone", x.tally(1) + x.tally(2) + x.tally(7), 0);
+    }
+
+    /** Eight acts that want a place which even reels and rows of nine places have not. */
+    private static void reachForPlaces() {
+        x.read(0, 0, 9);
+        x.write(0, 0, 9, 1);
+        x.nudge(0, 0, 9, 0, 1);
+        x.tick(0, 0, 9, true);
+        x.blend(0, 0, 0, 0, 0, 9, true);
+        x.spot(0, 0, 9);
+        x.paint(0, 0, 9, 1);
+        x.note(0, 9, 1);
     }
 
     private static void refusedChangesNothing() {
