@@ -15,6 +15,8 @@ final class Due {
 
     private int asked = 0;
     private int wrong = 0;
+    private int sentences = 0;
+    private int broken = 0;
 
     void is(String call, long got, long want) {
         asked++;
@@ -28,11 +30,32 @@ final class Due {
         is(claim, holds ? 1 : 0, 1);
     }
 
+    /** One test for one sentence of the document; it is broken too if the test throws or asks nothing. */
+    void sentence(String words, Runnable test) {
+        int askedBefore = asked;
+        int wrongBefore = wrong;
+        sentences++;
+        try {
+            test.run();
+        } catch (RuntimeException thrown) {
+            wrong++;
+            System.out.println("a call threw " + thrown);
+        }
+        isTrue("the test asks something", asked > askedBefore);
+        if (wrong > wrongBefore) {
+            broken++;
+            System.out.println("BROKEN: " + words);
+        }
+    }
+
     int wrong() {
         return wrong;
     }
 
     void end() {
+        if (sentences > 0) {
+            System.out.println(sentences + " sentences, " + broken + " broken");
+        }
         System.out.println(asked + " answers, " + wrong + " not as due");
         if (wrong != 0) {
             System.exit(1);
